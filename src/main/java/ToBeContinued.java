@@ -138,23 +138,26 @@ public final class ToBeContinued {
     }
 
     public int since(int person, int secret) {
-        if (!playedFor(person, secret)) {
+        if (!script.hasPerson(person) || !script.hasSecret(secret)) {
             return NONE;
         }
+        story.playAll(script);
         return story.bySceneOf[person * MOST_SECRETS + secret];
     }
 
     public int teller(int person, int secret) {
-        if (!playedFor(person, secret)) {
+        if (!script.hasPerson(person) || !script.hasSecret(secret)) {
             return NONE;
         }
+        story.playAll(script);
         return story.byWhom[person * MOST_SECRETS + secret];
     }
 
     public int tellings(int person, int secret) {
-        if (!playedFor(person, secret)) {
+        if (!script.hasPerson(person) || !script.hasSecret(secret)) {
             return NONE;
         }
+        story.playAll(script);
         return story.steps[person * MOST_SECRETS + secret];
     }
 
@@ -476,14 +479,6 @@ public final class ToBeContinued {
         laying.forget();
     }
 
-    private boolean playedFor(int person, int secret) {
-        if (!script.hasPerson(person) || !script.hasSecret(secret)) {
-            return false;
-        }
-        story.playAll(script);
-        return true;
-    }
-
     private int refusalOfBlock() {
         if (!block.isTold()) {
             return NONE;
@@ -675,6 +670,11 @@ public final class ToBeContinued {
             return within(code, END, NOT) ? LENGTH[code] : 1;
         }
 
+        /** How many of the stack an ORDER takes; it gives one back. */
+        static int takenBy(int code) {
+            return within(code, END, NOT) ? TAKES[code] : 0;
+        }
+
         /** The FIRST FAULT of a row of bytes, or WELL. */
         static int firstFault(Tape tape, Script script) {
             int depth = 0;
@@ -683,16 +683,14 @@ public final class ToBeContinued {
                 if (code == END) {
                     return depth == 1 ? WELL : i;
                 }
-                if (!within(code, KNOWS, NOT) || i + LENGTH[code] > tape.size) {
+                if (!within(code, KNOWS, NOT) || i + lengthOf(code) > tape.size || !namesWell(tape, i, script)) {
                     return i;
                 }
-                if (!namesWell(tape, i, script) || depth < TAKES[code]) {
+                int left = depth - takenBy(code);
+                if (left < 0 || left >= DEEPEST) {
                     return i;
                 }
-                depth += 1 - TAKES[code];
-                if (depth > DEEPEST) {
-                    return i;
-                }
+                depth = left + 1;
             }
             return tape.size;
         }
@@ -838,8 +836,15 @@ public final class ToBeContinued {
             noteTheDead(scene, cast);
             for (int a = 0; a < script.acts[scene]; a++) {
                 int act = script.act[scene * MOST_ACTS + a];
-                if ((namedBy(act) & gone) == 0) {
-                    playAct(scene, a, act, cast);
+                if ((namedBy(act) & gone) != 0) {
+                    continue;
+                }
+                int which = faultOf(script.week[scene], act, cast);
+                if (which == 0) {
+                    done[scene] |= 1 << a;
+                    perform(scene, act);
+                } else {
+                    note(scene, a, which, personOf(act));
                 }
             }
         }
@@ -856,16 +861,6 @@ public final class ToBeContinued {
                 if ((wrong >> person & 1) == 1) {
                     note(scene, -1, IS_DEAD, person);
                 }
-            }
-        }
-
-        private void playAct(int scene, int a, int act, int cast) {
-            int which = faultOf(script.week[scene], act, cast);
-            if (which == 0) {
-                done[scene] |= 1 << a;
-                perform(scene, act);
-            } else {
-                note(scene, a, which, personOf(act));
             }
         }
 
@@ -933,30 +928,27 @@ public final class ToBeContinued {
             steps[i] = far;
         }
 
-        /** Works a person's RULE; its stack is a row of bits, the last one lowest. */
+        /** Works a person's RULE (without a fault: rule() looked at it); the stack is a row of bits, the last lowest. */
         private boolean ruleLets(int person, int week) {
+            byte[] rules = script.rules;
             int stack = 0;
             int i = person * MOST_ELEMENTS;
             for (int n = script.ruleOrders[person]; n > 0; n--) {
-                int code = script.rules[i];
+                int code = rules[i];
+                boolean holds = false;
                 switch (code) {
-                    case Orders.BOTH: stack = stack >> 2 << 1 | stack & stack >> 1 & 1; break;
-                    case Orders.EITHER: stack = stack >> 2 << 1 | (stack | stack >> 1) & 1; break;
-                    case Orders.NOT: stack ^= 1; break;
-                    default: stack = stack << 1 | (holds(i, week) ? 1 : 0); break;
+                    case Orders.KNOWS: holds = isKnown(rules[i + 1], rules[i + 2]); break;
+                    case Orders.DEAD: holds = (dead >> rules[i + 1] & 1) == 1; break;
+                    case Orders.HOT: holds = threads.heatIn(rules[i + 1], week) >= rules[i + 2]; break;
+                    case Orders.WEEK: holds = week >= rules[i + 1]; break;
+                    case Orders.BOTH: holds = (stack & 3) == 3; break;
+                    case Orders.EITHER: holds = (stack & 3) != 0; break;
+                    default: holds = (stack & 1) == 0; break;
                 }
+                stack = stack >> Orders.takenBy(code) << 1 | (holds ? 1 : 0);
                 i += Orders.lengthOf(code);
             }
             return (stack & 1) == 1;
-        }
-
-        private boolean holds(int i, int week) {
-            switch (script.rules[i]) {
-                case Orders.KNOWS: return isKnown(script.rules[i + 1], script.rules[i + 2]);
-                case Orders.DEAD: return (dead >> script.rules[i + 1] & 1) == 1;
-                case Orders.HOT: return threads.heatIn(script.rules[i + 1], week) >= script.rules[i + 2];
-                default: return week >= script.rules[i + 1];
-            }
         }
     }
 
