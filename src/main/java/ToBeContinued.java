@@ -928,7 +928,7 @@ public final class ToBeContinued {
             steps[i] = far;
         }
 
-        /** Works a person's RULE (without a fault: rule() looked at it); the stack is a row of bits, the last lowest. */
+        /** Works a PERSON's RULE, in which rule() found no fault; the stack is a row of bits, the last one lowest. */
         private boolean ruleLets(int person, int week) {
             byte[] rules = script.rules;
             int stack = 0;
