@@ -19,7 +19,7 @@ public final class ToBeContinued {
 
     private final Script script = new Script();
     private final Threads threads = new Threads();
-    private final Story story = new Story(threads);
+    private final Story story = new Story(threads, script);
     private final Laying laying = new Laying(threads);
     private final Block block = new Block();
     private final Planner planner = new Planner(block);
@@ -380,11 +380,11 @@ public final class ToBeContinued {
         if (!isTape(d)) {
             return NONE;
         }
-        int refusal = refusalUnlessHeld(d, SCRIPT);
-        if (refusal != 0) {
-            return refusal;
+        Script kept = tapes[d].heldScript();
+        if (kept == null) {
+            return refusalOfOther(tapes[d]);
         }
-        script.takeFrom(tapes[d].kept);
+        script.takeFrom(kept);
         threads.forgetTurns();
         forgetPlans();
         return script.told;
@@ -394,11 +394,11 @@ public final class ToBeContinued {
         if (!isTape(d)) {
             return NONE;
         }
-        int refusal = refusalUnlessHeld(d, SCRIPT);
-        if (refusal != 0) {
-            return refusal;
+        Script kept = tapes[d].heldScript();
+        if (kept == null) {
+            return refusalOfOther(tapes[d]);
         }
-        int failure = story.playAll(tapes[d].kept);
+        int failure = story.playAll(kept);
         return failure == 0 ? counted(THROWN) : failure;
     }
 
@@ -416,11 +416,8 @@ public final class ToBeContinued {
             return NONE;
         }
         Tape tape = tapes[d];
-        if (tape.sort == EMPTY) {
-            return counted(NOTHING);
-        }
         if (!tape.holdsRow()) {
-            return counted(CAST);
+            return refusalOfOther(tape);
         }
         if (!within(i, 0, tape.size - 1)) {
             return counted(PLACE);
@@ -487,10 +484,12 @@ public final class ToBeContinued {
     }
 
     private int refusalUnlessHeld(int d, int sort) {
-        if (tapes[d].sort == EMPTY) {
-            return counted(NOTHING);
-        }
-        return tapes[d].sort == sort ? 0 : counted(CAST);
+        return tapes[d].sort == sort ? 0 : refusalOfOther(tapes[d]);
+    }
+
+    /** Refuses a TAPE that doesn't hold what is wanted. */
+    private int refusalOfOther(Tape tape) {
+        return counted(tape.sort == EMPTY ? NOTHING : CAST);
     }
 
     /** Every answer that may be a refusal of the host's goes through here, so that count() knows of it. */
@@ -721,7 +720,7 @@ public final class ToBeContinued {
     /** THE STORY, gone through SCENE by SCENE; what it found stays until it is opened again. */
     private static final class Story {
         private final Threads threads;
-        private Script script = null;
+        private Script script;
         private int leaver;
         private int leavingWeek;
         private int faultsFound;
@@ -739,8 +738,9 @@ public final class ToBeContinued {
         private final int[] done = new int[MOST_SCENES];
         private final int[] doneBefore = new int[MOST_SCENES];
 
-        Story(Threads threads) {
+        Story(Threads threads, Script script) {
             this.threads = threads;
+            this.script = script;
         }
 
         /** Goes to the beginning: how many SCENES are in AIR ORDER. */
@@ -1524,7 +1524,12 @@ public final class ToBeContinued {
         int sort;
         int size;
         final long[] row = new long[MOST_ELEMENTS];
-        Script kept = null;
+        private Script kept = null;
+
+        /** The COPY, or null if it holds none. */
+        Script heldScript() {
+            return sort == SCRIPT ? kept : null;
+        }
 
         boolean holdsRow() {
             return within(sort, BYTES, LONGS);

@@ -53,14 +53,29 @@ public final class LanguageTest {
     want(due.size() == 45 && got.equals(due), "the face is " + got + ", due is " + due);
     for (Method method : ToBeContinued.class.getDeclaredMethods())
       want(!Modifier.isPrivate(method.getModifiers()) || !names.contains(method.getName()), method + " bears a public name");
-    Set<String> constants = new TreeSet<>();
-    for (Field field : ToBeContinued.class.getDeclaredFields())
-      if (!Modifier.isPrivate(field.getModifiers())) constants.add(field.getName());
-    want(constants.equals(new TreeSet<>(List.of("NONE", "FULL", "UNABLE", "SPENT", "HOLDS", "NOTHING", "CAST", "PLACE",
-        "SIZE", "THROWN"))), "the constants are " + constants);
+    constants(text);
     Constructor<?>[] made = ToBeContinued.class.getDeclaredConstructors();
     want(made.length == 1 && made[0].getParameterCount() == 0 && Modifier.isPublic(made[0].getModifiers()), "constructors");
     want(ToBeContinued.class.getModifiers() == (Modifier.PUBLIC | Modifier.FINAL), "the class is not public and final");
+  }
+
+  /** The constants that are visible, with their values, are those of the document. */
+  private static void constants(String text) {
+    Set<String> due = new TreeSet<>();
+    Matcher m = Pattern.compile("([A-Z]+) = (-?\\d+)").matcher(text);
+    while (m.find()) due.add(m.group(1) + " = " + m.group(2));
+    Set<String> got = new TreeSet<>();
+    for (Field field : ToBeContinued.class.getDeclaredFields()) {
+      if (Modifier.isPrivate(field.getModifiers())) continue;
+      boolean well = field.getModifiers() == (Modifier.PUBLIC | Modifier.STATIC | Modifier.FINAL) && field.getType() == int.class;
+      want(well, field + " is no constant of the face");
+      try {
+        if (well) got.add(field.getName() + " = " + field.getInt(null));
+      } catch (IllegalAccessException never) {
+        want(false, never.toString());
+      }
+    }
+    want(due.size() == 10 && got.equals(due), "the constants are " + got + ", due is " + due);
   }
 
   private static void classes() {
