@@ -1427,7 +1427,10 @@ public final class ToBeContinued {
         private int leastFrom(int day, int taped, int all) {
             int free = all & ~taped;
             int least = ENDLESS;
-            for (int today = free; today >= 0; today = today == 0 ? -1 : today - 1 & free) {
+            for (int today = 0; today <= free; today++) {
+                if ((today & taped) != 0) {
+                    continue;
+                }
                 int then = taped | today;
                 boolean inOrder = ((setMates[taped] | notAfter[today]) & ~then) == 0;
                 boolean allThere = (cast[today] & block.offOn[day]) == 0;
@@ -1441,9 +1444,11 @@ public final class ToBeContinued {
 
         private int keepDays(int worth) {
             keptCount = block.size;
-            for (int i = 0; i < block.size; i++) {
+            int daysLeft = worth % ONE_PERSON;
+            for (int i = block.size - 1; i >= 0; i--) {
                 keptScene[i] = block.scenes[i];
-                keptDay[i] = worth % ONE_PERSON / digitOf[i] % MOST_DAYS;
+                keptDay[i] = daysLeft % MOST_DAYS;
+                daysLeft /= MOST_DAYS;
             }
             return worth / ONE_PERSON;
         }
