@@ -14,7 +14,7 @@ public final class SearchTest {
 
   public static void main(String[] args) {
     int scale = args.length > 0 ? Integer.parseInt(args[0]) : 1;
-    for (long seed = 1; seed <= 100L * scale && wrong < 5; seed++) new LayingCase(seed).play();
+    for (long seed = 1; seed <= 200L * scale && wrong < 5; seed++) new LayingCase(seed).play();
     tell("LAYINGS");
     for (long seed = 1; seed <= 200L * scale && wrong < 5; seed++) new PlanCase(seed).play();
     tell("PLANS");
@@ -47,6 +47,8 @@ public final class SearchTest {
     final Random random;
     final ToBeContinued x = new ToBeContinued();
     final int weeks;
+    // Most TURNS may come in any WEEK: then one state of the THREADS is come to by many ways.
+    final boolean wide;
     final int[] turns = new int[3], least = new int[3], most = new int[3];
     final int[][] minutes = new int[3][5], people = new int[3][5], first = new int[3][5], last = new int[3][5];
     final int[] load = new int[27], awayIn = new int[27];
@@ -56,7 +58,8 @@ public final class SearchTest {
     LayingCase(long seed) {
       this.seed = seed;
       random = new Random(seed);
-      weeks = 8 + random.nextInt(19);
+      wide = random.nextBoolean();
+      weeks = (wide ? 6 : 8) + random.nextInt(19);
     }
 
     void play() {
@@ -78,8 +81,8 @@ public final class SearchTest {
     void change() {
       for (int t = 0; t < 3; t++) {
         x.unturn(t);
-        least[t] = 1 + random.nextInt(3);
-        most[t] = Math.min(6, least[t] + random.nextInt(4));
+        least[t] = wide && random.nextBoolean() ? 1 : 1 + random.nextInt(3);
+        most[t] = wide && random.nextBoolean() ? 6 : Math.min(6, least[t] + random.nextInt(4));
         x.gap(t, least[t], most[t]);
         turns[t] = random.nextInt(8) == 0 ? 0 : 2 + random.nextInt(4);
         for (int k = 0; k < turns[t]; k++) {
@@ -87,6 +90,10 @@ public final class SearchTest {
           people[t][k] = random.nextInt(16) & random.nextInt(16);
           first[t][k] = 1 + random.nextInt(1 + k * weeks / 6);
           last[t][k] = Math.min(26, first[t][k] + weeks / 2 + random.nextInt(weeks));
+          if (wide && random.nextInt(3) > 0) {
+            first[t][k] = 1;
+            last[t][k] = 26;
+          }
           x.turn(t, minutes[t][k], people[t][k], first[t][k], last[t][k]);
         }
       }
