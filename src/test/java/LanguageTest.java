@@ -99,7 +99,7 @@ public final class LanguageTest {
     String code = text.replaceAll("(?s)/\\*.*?\\*/", "").replaceAll("//[^\n]*", "");
     String[] never = {"->", "::", "finally", "synchronized", "assert ", "hashCode", "Exact\\(", "static \\{", "catch", "@",
         "System\\.(?!arraycopy)", "Arrays\\.(?!fill\\()", "Math\\.(?!max|min|abs)", "Integer\\.(?!bitCount)", "Double",
-        "package ", "\\bvar\\b", "String\\.format", "Random", "\\bThread\\b"};
+        "[/%]=? [a-z(]", "package ", "\\bvar\\b", "String\\.format", "Random", "\\bThread\\b"};
     for (String one : never) want(!Pattern.compile(one).matcher(code).find(), "the file has " + one);
     Matcher imports = Pattern.compile("import ([^;]+);").matcher(code);
     while (imports.find()) want(imports.group(1).equals("java.util.Arrays"), "import of " + imports.group(1));
